@@ -465,6 +465,8 @@ public final class ActorsTest {
         checks.due("two of b, one of c", 3, hall.count(a));
         checks.due("one of c", 1, hall.count(b));
         checks.due("only a kept one", 0, hall.count(c));
+        hall.tie(a, c, COUNTED);
+        checks.due("one of a, the first of all", 1, hall.count(c));
         hall.unroot(b);
         checks.due("b is held by c", 3, hall.count(a));
         hall.untie(c, 2);

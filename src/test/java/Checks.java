@@ -13,6 +13,10 @@ final class Checks {
     static final Class<IllegalArgumentException> ARGUMENT = IllegalArgumentException.class;
     static final Class<IllegalStateException> STATE = IllegalStateException.class;
 
+    /** Stands for an exception that no throw statement of the class threw. */
+    private interface MachineThrew {
+    }
+
     interface Call {
         void run();
     }
@@ -68,9 +72,15 @@ final class Checks {
         try {
             run.run();
         } catch (RuntimeException e) {
-            return e.getClass();
+            return isThrownByTheHall(e) ? e.getClass() : MachineThrew.class;
         }
         return null;
+    }
+
+    /** Thrown by a throw statement of the class: the machine and the library never throw in it. */
+    static boolean isThrownByTheHall(RuntimeException thrown) {
+        StackTraceElement[] trace = thrown.getStackTrace();
+        return trace.length > 0 && trace[0].getClassName().startsWith("Spritehall");
     }
 
     /** All that the hall tells of itself. */

@@ -17,6 +17,9 @@ record Step(Name name, int a, int b, int c, int d, int e) {
         try {
             return call(hall);
         } catch (RuntimeException thrown) {
+            if (!Checks.isThrownByTheHall(thrown)) {
+                throw thrown;
+            }
             // No class above or below the three is due anywhere.
             Class<?> kind = thrown.getClass();
             if (kind == IndexOutOfBoundsException.class) {
