@@ -23,6 +23,7 @@ final class Checks {
 
     private int made;
     private int wrong;
+    private String sentence = "";
 
     void due(String call, long want, long got) {
         made++;
@@ -33,6 +34,21 @@ final class Checks {
 
     void due(String call, boolean want, boolean got) {
         due(call, want ? 1 : 0, got ? 1 : 0);
+    }
+
+    /** A test of one sentence of the document, which is told with all that fails in it. */
+    void sentence(String words, Runnable test) {
+        int before = made;
+        sentence = "[" + words + "] ";
+        try {
+            test.run();
+        } catch (RuntimeException thrown) {
+            fail("the test ended by " + thrown + " at " + thrown.getStackTrace()[0]);
+        }
+        if (made == before) {
+            fail("nothing was looked at");
+        }
+        sentence = "";
     }
 
     /** The call throws just that exception, and the hall answers the same behind it as ahead of it. */
@@ -58,7 +74,7 @@ final class Checks {
 
     void fail(String text) {
         wrong++;
-        System.out.println("wrong: " + text);
+        System.out.println("wrong: " + sentence + text);
     }
 
     void end() {
